@@ -1,0 +1,60 @@
+/** Small ways to set up a board and to look at it. */
+final class Board {
+    static final int PC = 16;
+    static final int SR = 17;
+    static final int USP = 18;
+    static final int SSP = 19;
+
+    static final int C = 1;
+    static final int V = 2;
+    static final int Z = 4;
+    static final int N = 8;
+    static final int X = 16;
+    static final int S = 0x2000;
+    static final int T = 0x8000;
+
+    private Board() {
+    }
+
+    /** A new board with these words from 0x400 on, and each vector n at 0x800 + 16 n. */
+    static BoardCore with(int... words) {
+        BoardCore b = new BoardCore();
+        for (int n = 1; n < 64; n++) {
+            b.write(4 * n, 0x800 + 16 * n, 4);
+        }
+        code(b, 0x400, words);
+        return b;
+    }
+
+    static void code(BoardCore b, int address, int... words) {
+        for (int i = 0; i < words.length; i++) {
+            b.write(address + 2 * i, words[i], 2);
+        }
+    }
+
+    static int vector(int n) {
+        return 0x800 + 16 * n;
+    }
+
+    static int flags(BoardCore b) {
+        return b.register(SR) & 0x1F;
+    }
+
+    /** All that can be seen: registers, state, counts, memory. */
+    static int[] all(BoardCore b) {
+        int[] seen = new int[20 + 1 + 64 + 1024 + 1];
+        int at = 0;
+        for (int k = 0; k < 20; k++) {
+            seen[at++] = b.register(k);
+        }
+        seen[at++] = b.state();
+        for (int n = 0; n < 64; n++) {
+            seen[at++] = b.exceptions(n);
+        }
+        for (int a = 0; a < 4096; a += 4) {
+            seen[at++] = b.read(a, 4);
+        }
+        seen[at] = b.sum();
+        return seen;
+    }
+}
