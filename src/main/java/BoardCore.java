@@ -671,11 +671,7 @@ public final class BoardCore {
             return withCarryToX(result);
         }
 
-        int joinedDecimal(int how, int a, int b) {
-            return how == LESS ? decimalMinus(a, b) : decimalPlus(a, b);
-        }
-
-        private int decimalPlus(int a, int b) {
+        int decimalPlus(int a, int b) {
             int v = (a & 15) + (b & 15) + x();
             if (v > 9) {
                 v += 6;
@@ -685,7 +681,7 @@ public final class BoardCore {
             return decimal(carry ? v + 0x60 : v, carry);
         }
 
-        private int decimalMinus(int a, int b) {
+        int decimalMinus(int a, int b) {
             int v = (a & 15) - (b & 15) - x();
             if (v < 0) {
                 v -= 6;
@@ -1076,7 +1072,7 @@ public final class BoardCore {
         private void negateDecimal(int word) {
             if (!misfits(DATA_ALTERABLE, operand(word))) {
                 long place = access.locate(Size.BYTE, operand(word));
-                access.store(Size.BYTE, place, arithmetic.joinedDecimal(LESS, 0, access.load(Size.BYTE, place)));
+                access.store(Size.BYTE, place, arithmetic.decimalMinus(0, access.load(Size.BYTE, place)));
             }
         }
 
@@ -1426,7 +1422,8 @@ public final class BoardCore {
             int first = access.load(Size.BYTE, access.locate(Size.BYTE, pairMode(word) | lower(word)));
             long place = access.locate(Size.BYTE, pairMode(word) | upper(word));
             int second = access.load(Size.BYTE, place);
-            access.store(Size.BYTE, place, arithmetic.joinedDecimal(how, second, first));
+            int result = how == LESS ? arithmetic.decimalMinus(second, first) : arithmetic.decimalPlus(second, first);
+            access.store(Size.BYTE, place, result);
         }
 
         private void comparePair(int word) {

@@ -32,6 +32,19 @@ final class Board {
         }
     }
 
+    /** A board with something in every part: registers, memory, an exception, a wanted interrupt. */
+    static BoardCore used() {
+        BoardCore b = with(0x4E43);
+        b.step(1);
+        for (int k = 0; k < 16; k++) {
+            b.put(k, 0x500 + 6 * k);
+        }
+        b.put(USP, 0x7F0);
+        b.put(SR, S | 0x0315);
+        b.want(4);
+        return b;
+    }
+
     static int vector(int n) {
         return 0x800 + 16 * n;
     }
@@ -40,9 +53,9 @@ final class Board {
         return b.register(SR) & 0x1F;
     }
 
-    /** All that can be seen: registers, state, counts, memory. */
-    static int[] all(BoardCore b) {
-        int[] seen = new int[20 + 1 + 64 + 1024 + 1];
+    /** What can be seen with few calls: registers, state, counts, and memory by its sum. */
+    static int[] seen(BoardCore b) {
+        int[] seen = new int[20 + 1 + 64 + 1];
         int at = 0;
         for (int k = 0; k < 20; k++) {
             seen[at++] = b.register(k);
@@ -50,9 +63,6 @@ final class Board {
         seen[at++] = b.state();
         for (int n = 0; n < 64; n++) {
             seen[at++] = b.exceptions(n);
-        }
-        for (int a = 0; a < 4096; a += 4) {
-            seen[at++] = b.read(a, 4);
         }
         seen[at] = b.sum();
         return seen;

@@ -32,10 +32,9 @@ public final class FaceTest {
     private static void newObject() {
         BoardCore b = new BoardCore();
         fresh("new", b);
-        for (int a = 0; a < 4096; a++) {
-            CHECKS.same("new memory " + a, b.read(a, 1), 0);
-        }
-        CHECKS.same("new sum", b.sum(), 0);
+        CHECKS.same("new memory", b.sum(), 0);
+        CHECKS.same("first bytes", b.read(0, 4), 0);
+        CHECKS.same("last bytes", b.read(4092, 4), 0);
         BoardCore other = new BoardCore();
         b.put(0, 1);
         b.write(0, 1, 1);
@@ -102,8 +101,8 @@ public final class FaceTest {
         }
         int[] wrong = {-1, 20, 21, 32, Integer.MAX_VALUE, Integer.MIN_VALUE};
         for (int k : wrong) {
-            CHECKS.refused("register " + k, b, IndexOutOfBoundsException.class, () -> b.register(k));
-            CHECKS.refused("put " + k, b, IndexOutOfBoundsException.class, () -> b.put(k, 5));
+            CHECKS.refused("register " + k, IndexOutOfBoundsException.class, x -> x.register(k));
+            CHECKS.refused("put " + k, IndexOutOfBoundsException.class, x -> x.put(k, 5));
         }
     }
 
@@ -128,8 +127,8 @@ public final class FaceTest {
         CHECKS.same("highest address is 4095", b.read(4095, 2), 0x6677);
         int[] wrong = {0, 3, 5, 8, -1, -2, Integer.MIN_VALUE};
         for (int n : wrong) {
-            CHECKS.refused("write of " + n, b, IllegalArgumentException.class, () -> b.write(0, -1, n));
-            CHECKS.refused("read of " + n, b, IllegalArgumentException.class, () -> b.read(0, n));
+            CHECKS.refused("write of " + n, IllegalArgumentException.class, x -> x.write(0, -1, n));
+            CHECKS.refused("read of " + n, IllegalArgumentException.class, x -> x.read(0, n));
         }
     }
 
@@ -143,7 +142,7 @@ public final class FaceTest {
         b.want(2);
         int[] wrong = {-1, 8, 9, Integer.MAX_VALUE, Integer.MIN_VALUE};
         for (int level : wrong) {
-            CHECKS.refused("want " + level, b, IllegalArgumentException.class, () -> b.want(level));
+            CHECKS.refused("want " + level, IllegalArgumentException.class, x -> x.want(level));
         }
         b.step(1);
         CHECKS.same("the last one wanted", b.exceptions(26), 1);
@@ -163,7 +162,7 @@ public final class FaceTest {
         CHECKS.same("runs in place", b.register(Board.PC), 0x400);
         int[] wrong = {-1, 3001, Integer.MAX_VALUE, Integer.MIN_VALUE};
         for (int n : wrong) {
-            CHECKS.refused("step " + n, b, IllegalArgumentException.class, () -> b.step(n));
+            CHECKS.refused("step " + n, IllegalArgumentException.class, x -> x.step(n));
         }
     }
 
@@ -202,7 +201,7 @@ public final class FaceTest {
         CHECKS.same("none of 63", b.exceptions(63), 0);
         int[] wrong = {-1, 64, Integer.MAX_VALUE, Integer.MIN_VALUE};
         for (int n : wrong) {
-            CHECKS.refused("exceptions " + n, b, IllegalArgumentException.class, () -> b.exceptions(n));
+            CHECKS.refused("exceptions " + n, IllegalArgumentException.class, x -> x.exceptions(n));
         }
         b.reset();
         CHECKS.same("none since the reset", b.exceptions(0), 0);
@@ -214,11 +213,20 @@ public final class FaceTest {
         CHECKS.same("first byte", b.sum(), 1);
         b.write(4095, 255, 1);
         CHECKS.same("last byte, without sign", b.sum(), 1 + 255 * 4096);
-        for (int a = 0; a < 4096; a += 4) {
-            b.write(a, -1, 4);
+        int due = 1 + 255 * 4096;
+        for (int a = 1; a < 4095; a += 13) {
+            b.write(a, a, 1);
+            due += (a & 255) * (a + 1);
         }
-        CHECKS.same("all bytes 255", b.sum(), 255 * (4096 * 4097 / 2));
-        b.step(1);
-        CHECKS.same("steps count too", b.sum() != 255 * (4096 * 4097 / 2) ? 1 : 0, 1);
+        CHECKS.same("bytes all over", b.sum(), due);
+        BoardCore c = Board.with(0x13FC, 0x00FE, 0x0000, 0x0E00);
+        int before = c.sum();
+        c.step(1);
+        CHECKS.same("bytes that an instruction writes", c.sum() - before, 0xFE * 0xE01);
+        BoardCore full = new BoardCore();
+        for (int a = 4096 - 1600; a < 4096; a += 4) {
+            full.write(a, -1, 4);
+        }
+        CHECKS.same("bytes of 255", full.sum(), 255 * (4096 * 4097 / 2 - 2496 * 2497 / 2));
     }
 }
