@@ -347,8 +347,8 @@ public final class BoardCore {
     private static final class Registers {
         private final int[] now;
         private final int[] kept;
-        private int pc;
-        private int sr;
+        int pc;
+        int sr;
         private int keptPc;
         private int keptSr;
 
@@ -450,8 +450,8 @@ public final class BoardCore {
     private static final class Access {
         private final Memory memory;
         private final Registers registers;
-        private int raised;
-        private int oddAddress;
+        int raised;
+        int oddAddress;
 
         Access(Memory memory, Registers registers) {
             this.memory = memory;
@@ -641,7 +641,7 @@ public final class BoardCore {
             return result;
         }
 
-        private int x() {
+        private int xAsNumber() {
             return registers.has(X) ? 1 : 0;
         }
 
@@ -666,13 +666,13 @@ public final class BoardCore {
 
         int joinedWithX(int how, Size size, int a, int b) {
             boolean zero = registers.has(Z);
-            int result = how == LESS ? subtracted(size, a, b, x()) : added(size, a, b, x());
+            int result = how == LESS ? subtracted(size, a, b, xAsNumber()) : added(size, a, b, xAsNumber());
             registers.mark(Z, zero && result == 0);
             return withCarryToX(result);
         }
 
         int decimalPlus(int a, int b) {
-            int v = (a & 15) + (b & 15) + x();
+            int v = (a & 15) + (b & 15) + xAsNumber();
             if (v > 9) {
                 v += 6;
             }
@@ -682,7 +682,7 @@ public final class BoardCore {
         }
 
         int decimalMinus(int a, int b) {
-            int v = (a & 15) - (b & 15) - x();
+            int v = (a & 15) - (b & 15) - xAsNumber();
             if (v < 0) {
                 v -= 6;
             }
@@ -822,6 +822,7 @@ public final class BoardCore {
             return word >>> 6 & 3;
         }
 
+        // Bit 8: in most lines it tells that the operand is not the source, but written to.
         private static boolean isTo(int word) {
             return (word & 0x100) != 0;
         }
