@@ -16,6 +16,8 @@ public final class OperandTest {
         orders();
         wordsBeforeWrites();
         roundMemory();
+        addressZero();
+        wordOperands();
         CHECKS.end();
     }
 
@@ -100,6 +102,10 @@ public final class OperandTest {
                 CHECKS.same("word index " + k, addressOf(b), 0x10000 + (short) 0x8766 - 0x80);
             }
         }
+        BoardCore odd = Board.with(0x4BF1, 0x2001);
+        odd.put(9, 0x500);
+        odd.put(2, 0x12340010);
+        CHECKS.same("word index, odd number", addressOf(odd), 0x511);
         BoardCore user = Board.with(0x4BF1, 0xF800);
         user.put(Board.USP, 0x222);
         user.put(Board.SR, 0);
@@ -254,5 +260,35 @@ public final class OperandTest {
         p.step(1);
         CHECKS.same("instruction round the end", p.register(0), 0x4242);
         CHECKS.same("PC is a long", p.register(16), 0x80000002);
+    }
+
+    private static void addressZero() {
+        BoardCore b = Board.with(0x2038, 0x0000, 0x21C1, 0x0000);
+        b.write(0, 0x13572468, 4);
+        b.put(1, 0x55AA55AA);
+        b.step(1);
+        CHECKS.same("read at address 0", b.register(0), 0x13572468);
+        b.step(1);
+        CHECKS.same("written at address 0", b.read(0, 4), 0x55AA55AA);
+        CHECKS.same("and no register", b.register(0), 0x13572468);
+    }
+
+    /** Instructions whose operand is always a word: Ay goes up by 2, one word is taken. */
+    private static void wordOperands() {
+        int[] words = {0xC0C0, 0xC1C0, 0x80C0, 0x81C0, 0x4180, 0x44C0, 0x46C0, 0x90C0, 0xB0C0, 0xD0C0, 0x40C0, 0xE0C0};
+        for (int i = 0; i < words.length; i++) {
+            BoardCore b = Board.with(words[i] | 0x19);
+            b.put(9, 0xC00);
+            b.write(0xC00, 0x2001, 2);
+            b.step(1);
+            CHECKS.same("up by a word, " + Integer.toHexString(words[i]), b.register(9), 0xC02);
+            CHECKS.same("no exception", b.exceptions(0), 0);
+            if (i < 10) {
+                BoardCore c = Board.with(words[i] | 0x3C, 0x2001);
+                c.step(1);
+                CHECKS.same("one word behind " + Integer.toHexString(words[i]), c.register(16), 0x404);
+                CHECKS.same("no exception", c.exceptions(0), 0);
+            }
+        }
     }
 }
