@@ -13,6 +13,9 @@ final class Board {
     static final int S = 0x2000;
     static final int T = 0x8000;
 
+    // Places of memory that seen reads one by one: the ends, and where the tests write.
+    private static final int[] LOOKED_AT = {-8, -4, 0, 4, 8, 0x3F8, 0x3FC, 0x400, 0x404, 0xC00, 0xC04};
+
     private Board() {
     }
 
@@ -45,6 +48,19 @@ final class Board {
         return b;
     }
 
+    static BoardCore waiting() {
+        BoardCore b = with(0x4E72, 0x2312);
+        b.step(1);
+        return b;
+    }
+
+    static BoardCore halted() {
+        BoardCore b = with(0x4E40);
+        b.put(SSP, 0x701);
+        b.step(1);
+        return b;
+    }
+
     static int vector(int n) {
         return 0x800 + 16 * n;
     }
@@ -53,9 +69,9 @@ final class Board {
         return b.register(SR) & 0x1F;
     }
 
-    /** What can be seen with few calls: registers, state, counts, and memory by its sum. */
+    /** What can be seen with few calls: registers, state, counts, and memory by its sum and some places. */
     static int[] seen(BoardCore b) {
-        int[] seen = new int[20 + 1 + 64 + 1];
+        int[] seen = new int[20 + 1 + 64 + 1 + LOOKED_AT.length];
         int at = 0;
         for (int k = 0; k < 20; k++) {
             seen[at++] = b.register(k);
@@ -64,7 +80,10 @@ final class Board {
         for (int n = 0; n < 64; n++) {
             seen[at++] = b.exceptions(n);
         }
-        seen[at] = b.sum();
+        seen[at++] = b.sum();
+        for (int address : LOOKED_AT) {
+            seen[at++] = b.read(address, 4);
+        }
         return seen;
     }
 }
