@@ -85,6 +85,7 @@ public final class EdgeInstructionsTest {
             EDGE.does("0181", "D0=" + n[0] + " D1=" + n[1] + " SR=2004", "D1=0 SR=2000");
             EDGE.does("0101", "D0=" + n[0] + " D1=" + n[1] + " SR=2004", "SR=2000");
         }
+        EDGE.does("0147", "D0=1F D7=0", "D7=80000000 SR=2004");
         CHECKS.sentence("else modulo 8 of a byte");
         String[][] small = {
             {"0", "1"}, {"7", "80"}, {"8", "1"}, {"9", "2"}, {"1F", "80"}, {"20", "1"}, {"FFFFFFFF", "80"}, {"80000000", "1"},
@@ -204,6 +205,7 @@ public final class EdgeInstructionsTest {
         EDGE.does("4800", "D0=99 SR=2010", "D0=0 SR=2011");
         EDGE.does("4800", "D0=1 SR=200A", "D0=99 SR=201B");
         EDGE.does("481F", "B.F00=50", "B.F00=50 SS=F02 SR=2011");
+        EDGE.does("4818", "B.C00=1", "B.C00=99 A0=C01 SR=2011");
     }
 
     private static void places() {
@@ -212,6 +214,7 @@ public final class EdgeInstructionsTest {
         EDGE.does("4840", "D0=8000 SR=2007", "D0=80000000 SR=2008");
         EDGE.does("4840", "D0=80000000 SR=200F", "D0=8000 SR=2000");
         EDGE.does("4840", "D0=0 SR=201B", "SR=2014");
+        EDGE.does("4847", "D7=12345678", "D7=56781234");
         CHECKS.sentence("an address (control) is pushed.");
         EDGE.does("4857", "SS=F00", "SS=EFC L.EFC=F00");
         EDGE.does("486F FFFC", "SS=F00", "SS=EFC L.EFC=EFC");
@@ -224,6 +227,8 @@ public final class EdgeInstructionsTest {
         EDGE.does("48C0", "D0=FFFF0000 SR=201B", "D0=0 SR=2014");
         EDGE.does("48C0", "D0=FFFF7FFF SR=201F", "D0=7FFF SR=2010");
         EDGE.does("48C0", "D0=8000 SR=2007", "D0=FFFF8000 SR=2008");
+        EDGE.does("4881", "D1=12345680", "D1=1234FF80 SR=2008");
+        EDGE.does("48C7", "D7=12348000", "D7=FFFF8000 SR=2008");
     }
 
     private static int value(int k) {
@@ -438,6 +443,7 @@ public final class EdgeInstructionsTest {
         EDGE.raises(6, 0x402, "4181", "D0=FFFF D1=FFFF SR=2000", "SR=2008");
         EDGE.raises(6, 0x404, "41BC 0005", "D0=6", "");
         EDGE.raises(6, 0x402, "4198", "D0=6 W.C00=5", "A0=C02");
+        EDGE.does("4198", "D0=5 W.C00=5", "A0=C02");
         EDGE.faults(0xC01, "4190", "A0=C01 D0=FFFF");
     }
 
@@ -463,6 +469,7 @@ public final class EdgeInstructionsTest {
         CHECKS.sentence("a byte (data alterable) becomes 255, if c holds, else 0.");
         EDGE.does("50C0", "D0=12345600 SR=201F", "D0=123456FF");
         EDGE.does("51C0", "D0=123456FF SR=201F", "D0=12345600");
+        EDGE.does("50D8", "", "B.C00=FF A0=C01");
         EDGE.does("50DF", "", "B.F00=FF SS=F02");
         EDGE.does("51E7", "B.EFE=FF", "B.EFE=0 SS=EFE");
         CHECKS.sentence("CONDITIONS: 0 always, 1 never");
@@ -570,6 +577,8 @@ public final class EdgeInstructionsTest {
         EDGE.does("B0C1", "A0=0 D1=8000 SR=201F", "SR=2011");
         EDGE.does("B1C1", "A0=80000000 D1=1 SR=2000", "SR=2002");
         EDGE.does("D0C8", "A0=8000", "A0=0");
+        EDGE.does("DCC1", "A6=5 D1=FFFF", "A6=4");
+        EDGE.does("9DFC 0000 8000", "A6=8000", "A6=0");
     }
 
     private static void quotients() {
@@ -639,6 +648,8 @@ public final class EdgeInstructionsTest {
         EDGE.does("C1C1", "D0=FFFF D1=1", "D0=FFFFFFFF SR=2008");
         EDGE.does("C1C1", "D0=7FFF D1=8000", "D0=C0008000 SR=2008");
         EDGE.does("C1C1", "D0=7FFF D1=7FFF", "D0=3FFF0001");
+        EDGE.does("C0D8", "D0=FFFF W.C00=8000", "D0=7FFF8000 A0=C02");
+        EDGE.does("C1FC 8000", "D0=FFFF", "D0=8000");
         EDGE.does("C1C1", "D0=12340000 D1=FFFF SR=201B", "D0=0 SR=2014");
     }
 
@@ -675,6 +686,7 @@ public final class EdgeInstructionsTest {
         EDGE.does("C141", "D0=80000000 D1=0 SR=201F", "D0=0 D1=80000000");
         EDGE.does("C149", "A0=80000000 A1=0", "A0=0 A1=80000000");
         EDGE.does("C189", "D0=80000000 A1=0", "D0=0 A1=80000000");
+        EDGE.does("CD49", "A6=12345678 A1=0", "A6=0 A1=12345678");
         EDGE.does("C140", "D0=5", "");
         EDGE.does("C148", "A0=5", "");
         EDGE.does("C14F", "A0=5", "A0=F00 SS=5");

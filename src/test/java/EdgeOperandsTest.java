@@ -227,7 +227,7 @@ public final class EdgeOperandsTest {
     private static void illegal() {
         CHECKS.sentence("What fits nothing is ILLEGAL (exception 4); what begins with 1010 is exception 10, with 1111 it is 11.");
         String[] words = {
-            "4AFC", "00C0", "02C0", "04C0", "06C0", "0AC0", "0CC0", "0E00", "0EC0", "0EFF", "083C", "08FC", "42C0", "4808",
+            "4AFC", "00BC", "02BC", "0ABC", "00C0", "02C0", "04C0", "06C0", "0AC0", "0CC0", "0E00", "0EC0", "0EFF", "083C", "08FC", "42C0", "4808",
             "4848", "49C0", "4AFA", "4AFF", "4C00", "4C7F", "4C80", "4C88", "4E00", "4E3F", "4E74", "4E78", "4E7F",
             "4100", "4140", "4B7F", "7100", "7FFF", "8140", "8180", "C180", "C1C8", "E8C0", "EFFF", "E0C0", "E0C8",
         };
@@ -392,6 +392,8 @@ public final class EdgeOperandsTest {
         CHECKS.sentence("MEMORY: not 0 and 1.");
         takes("shift", 0xE0C0, "001111111000");
         takes("or to memory", 0x8340, "001111111000");
+        // With mode 1 these bits tell that registers change places.
+        takes("and to memory", 0xC380, "011111111000");
         // With modes 0 and 1 these bits are sums and differences with X.
         takes("sum to memory", 0xD340, "111111111000");
         takes("difference to memory", 0x9340, "111111111000");
@@ -536,6 +538,7 @@ public final class EdgeOperandsTest {
             EDGE.does(sum, "D0=" + high + " D1=" + high, "D0=0 SR=2017");
             EDGE.does(sum, "D0=" + high + " D1=" + all, "D0=" + most + " SR=2013");
             EDGE.does(sum, "D0=" + all + " D1=" + all, "D0=" + all.substring(1) + "E SR=2019");
+            EDGE.does(sum, "D0=" + most + " D1=" + high, "D0=" + all + " SR=2008");
             EDGE.does(sum, "D0=0 D1=0 SR=201B", "SR=2004");
             EDGE.does(less, "D0=" + high + " D1=1", "D0=" + most + " SR=2002");
             EDGE.does(less, "D0=0 D1=1", "D0=" + all + " SR=2019");
@@ -562,6 +565,7 @@ public final class EdgeOperandsTest {
         }
         EDGE.does("D101", "D0=FF D1=0 SR=2014", "D0=0 SR=2015");
         EDGE.does("D101", "D0=FF D1=FF SR=2010", "SR=2019");
+        EDGE.does("D101", "D0=FE D1=0 SR=2010", "D0=FF SR=2008");
         EDGE.does("D101", "D0=7F D1=0 SR=2010", "D0=80 SR=200A");
         EDGE.does("D181", "D0=FFFFFFFF D1=0 SR=2010", "D0=0 SR=2011");
         EDGE.does("D181", "D0=7FFFFFFF D1=0 SR=2010", "D0=80000000 SR=200A");
