@@ -26,7 +26,7 @@ public final class EdgeShiftsTest {
         CHECKS.sentence("i 0 by r (8 for 0), 1 by Dr modulo 64");
         EDGE.does("E148", "D0=1", "D0=100");
         EDGE.does("E348", "D0=1", "D0=2");
-        EDGE.does("E349", "D1=1", "D1=2");
+        EDGE.does("E549", "D1=1", "D1=4");
         EDGE.does("EF48", "D0=1", "D0=80");
         EDGE.does("E048", "D0=8000", "D0=80");
         EDGE.does("EE48", "D0=8000", "D0=100");
