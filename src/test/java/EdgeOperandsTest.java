@@ -414,6 +414,9 @@ public final class EdgeOperandsTest {
         takes("cleared", 0x4240, "101111111000");
         // With mode 1 these bits are those of bytes apart.
         takes("bit set", 0x03C0, "111111111000");
+        takes("bit of a number turned", 0x0840, "101111111000");
+        takes("bit of a number cleared", 0x0880, "101111111000");
+        takes("bit of a number set", 0x08C0, "101111111000");
         // With the last of 7 these bits are those of SR, S only.
         takes("or with a number", 0x0040, "101111111001");
         takes("sum with a number", 0x0640, "101111111000");
