@@ -8,8 +8,9 @@ public final class DecimalTest {
 
     public static void main(String[] args) {
         decimals();
-        allBytes();
         inMemory();
+        differencesOfAllBytes();
+        sumsOfAllBytes();
         CHECKS.end();
     }
 
@@ -55,19 +56,33 @@ public final class DecimalTest {
         CHECKS.same("the rest of the register stays", board.register(0) & 0xFFFFFF00, 0x11223300);
     }
 
-    private static void allBytes() {
+    private static int flagsBefore(int a, int x) {
+        return x * 16 | Board.Z | (a & 1) * 10;
+    }
+
+    private static void differencesOfAllBytes() {
+        CHECKS.sentence("DECIMAL: difference a - b - X: v is the low halves' difference, less X; if it is below 0, it is "
+            + "6 less; v grows by the high halves' difference (times 16)");
         for (int a = 0; a < 256; a++) {
             for (int b = 0; b < 256; b++) {
                 int x = (a ^ b) >>> 2 & 1;
-                int before = x * 16 | Board.Z | (a & 1) * 10;
+                int low = (a & 15) - (b & 15) - x;
+                int v = (low < 0 ? low - 6 : low) + 16 * ((a >>> 4) - (b >>> 4));
+                run(0x8300, b, a, flagsBefore(a, x));
+                look("difference", board.register(1), (v < 0 ? v - 0x60 : v) & 255, v < 0, flagsBefore(a, x));
+            }
+        }
+    }
+
+    private static void sumsOfAllBytes() {
+        CHECKS.sentence("Sum: v is the low halves' sum, and X; if it is above 9, 6 more; v grows by the high halves");
+        for (int a = 0; a < 256; a++) {
+            for (int b = 0; b < 256; b++) {
+                int x = (a ^ b) >>> 2 & 1;
                 int low = (a & 15) + (b & 15) + x;
                 int v = (low > 9 ? low + 6 : low) + 16 * ((a >>> 4) + (b >>> 4));
-                run(0xC300, b, a, before);
-                look("sum of bytes", board.register(1), (v > 0x9F ? v + 0x60 : v) & 255, v > 0x9F, before);
-                low = (a & 15) - (b & 15) - x;
-                v = (low < 0 ? low - 6 : low) + 16 * ((a >>> 4) - (b >>> 4));
-                run(0x8300, b, a, before);
-                look("difference of bytes", board.register(1), (v < 0 ? v - 0x60 : v) & 255, v < 0, before);
+                run(0xC300, b, a, flagsBefore(a, x));
+                look("sum", board.register(1), (v > 0x9F ? v + 0x60 : v) & 255, v > 0x9F, flagsBefore(a, x));
             }
         }
     }

@@ -105,7 +105,8 @@ public final class EdgeCallsTest {
     }
 
     private static void everyRegister() {
-        CHECKS.sentence("Register k: 0 to 7 D0 .., 8 to 15 A0 .., 16 PC, 17 SR, 18 the user's A7, 19 the supervisor's.");
+        CHECKS.sentence("Register k: 0 to 7 D0 .., 8 to 15 A0 .., 16 PC, 17 SR, 18 the user's A7, 19 the "
+            + "supervisor's.");
         int[] values = {0, 1, -1, FAR[0], FAR[1], 0x12345678};
         for (int s = 0; s <= 0x2000; s += 0x2000) {
             for (int k = 0; k < 20; k++) {
@@ -165,8 +166,8 @@ public final class EdgeCallsTest {
     private static final int[] WRONG_SIZES = {0, 3, 5, 6, 7, 8, 16, 32, -1, -2, -4, 256 + 1, FAR[0], FAR[1]};
 
     private static void sizesOfWrite() {
-        CHECKS.sentence("The n bytes of v (its lowest ones, the highest of these first) are written from an address on. "
-            + "IllegalArgumentException: n is not 1, 2 or 4.");
+        CHECKS.sentence("The n bytes of v (its lowest ones, the highest of these first) are written from an address "
+            + "on. IllegalArgumentException: n is not 1, 2 or 4.");
         for (int n : WRONG_SIZES) {
             CHECKS.refused("write of " + n, IllegalArgumentException.class, b -> b.write(0xC00, 0x55555555, n));
             CHECKS.refused("write of " + n + " at -1", IllegalArgumentException.class, b -> b.write(-1, -1, n));

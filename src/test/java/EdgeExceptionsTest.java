@@ -27,7 +27,8 @@ public final class EdgeExceptionsTest {
     }
 
     private static void exceptions() {
-        CHECKS.sentence("SR as it is; S becomes 1, T 0; PC, then that SR are pushed, PC becomes the long at 4 n.");
+        CHECKS.sentence("EXCEPTION n: SR as it is; S becomes 1, T 0; PC, then that SR are pushed, PC becomes the "
+            + "long at 4 n.");
         EDGE.raises(32, 0x402, "4E40", "SR=0", "");
         EDGE.raises(32, 0x402, "4E40", "SR=71F", "");
         EDGE.raises(32, 0x402, "4E40", "SR=271F", "");
@@ -251,7 +252,7 @@ public final class EdgeExceptionsTest {
     }
 
     private static void levelsAndMasks() {
-        CHECKS.sentence("before an instruction, if the level that is wanted is above the mask, or 7");
+        CHECKS.sentence("INTERRUPTS: before an instruction, if the level that is wanted is above the mask, or 7");
         for (int level = 1; level < 8; level++) {
             for (int mask = 0; mask < 8; mask++) {
                 String sr = " SR=" + Integer.toHexString(mask << 8 | 0x15);

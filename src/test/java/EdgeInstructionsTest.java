@@ -39,7 +39,8 @@ public final class EdgeInstructionsTest {
     }
 
     private static void joinedStatus() {
-        CHECKS.sentence("an extension word's low byte or, and, exclusive or CCR.");
+        CHECKS.sentence("0000 0000 0011 1100, 0000 0010 .., 0000 1010 ..: an extension word's low byte or, and, "
+            + "exclusive or CCR.");
         EDGE.does("003C FF00", "SR=2715", "");
         EDGE.does("003C 001F", "SR=2700", "SR=271F");
         EDGE.does("023C FF1F", "SR=2715", "");
@@ -61,7 +62,8 @@ public final class EdgeInstructionsTest {
     }
 
     private static void bytesApart() {
-        CHECKS.sentence("k 0 two of them to the word of Dr, 1 four to Dr, highest first; 2 and 3 back from it. No flags.");
+        CHECKS.sentence("k 0 two of them to the word of Dr, 1 four to Dr, highest first; 2 and 3 back from it. No "
+            + "flags.");
         EDGE.does("0108 0000", "A0=C00 L.C00=12993499 SR=201F", "D0=0D001234");
         EDGE.does("0108 FFFF", "A0=C01 L.C00=80998099", "D0=0D008080");
         EDGE.does("0108 7FFF", "A0=C02 L.C00=99129934", "D0=0D001234");
@@ -96,7 +98,8 @@ public final class EdgeInstructionsTest {
             EDGE.does("01A7", "D0=" + n[0] + " B.EFE=" + n[1], "B.EFE=0 SS=EFE");
             EDGE.does("0110", "D0=" + n[0] + " B.C00=" + n[1] + " SR=2004", "SR=2000");
         }
-        CHECKS.sentence("Z is 1 if it is 0; then t 0 nothing (data), 1 it is turned, 2 it is 0, 3 it is 1 (data alterable).");
+        CHECKS.sentence("Z is 1 if it is 0; then t 0 nothing (data), 1 it is turned, 2 it is 0, 3 it is 1 (data "
+            + "alterable).");
         EDGE.does("0101", "D0=4 D1=10 SR=201F", "SR=201B");
         EDGE.does("0101", "D0=4 D1=FFFFFFEF SR=201B", "SR=201F");
         EDGE.does("0141", "D0=4 D1=FFFFFFFF SR=201F", "D1=FFFFFFEF SR=201B");
@@ -105,7 +108,7 @@ public final class EdgeInstructionsTest {
         EDGE.does("0181", "D0=4 D1=FFFFFFEF SR=2000", "SR=2004");
         EDGE.does("01C1", "D0=4 D1=FFFFFFFF SR=201F", "SR=201B");
         EDGE.does("01C1", "D0=4 D1=0 SR=2000", "D1=10 SR=2004");
-        CHECKS.sentence("with the number in an extension word in front of the operand's");
+        CHECKS.sentence("0000 1000 ttee eeee: with the number in an extension word in front of the operand's");
         EDGE.does("0841 001F", "D1=0", "D1=80000000 SR=2004");
         EDGE.does("0841 0020", "D1=0", "D1=1 SR=2004");
         EDGE.does("0841 FFFF", "D1=0", "D1=80000000 SR=2004");
@@ -130,7 +133,8 @@ public final class EdgeInstructionsTest {
         EDGE.does("0C40 0003", "D0=5", "");
         EDGE.does("0480 8000 0000", "D0=7FFFFFFF", "D0=FFFFFFFF SR=201B");
         EDGE.does("061F 0001", "B.F00=7F", "B.F00=80 SS=F02 SR=200A");
-        CHECKS.sentence("a source in extension words of the size (in front) and the operand (data alterable), s not 3");
+        CHECKS.sentence("0000 iii0 ssee eeee: a source in extension words of the size (in front) and the operand "
+            + "(data alterable), s not 3");
         for (int i = 0; i < 7; i++) {
             if (i != 4) {
                 EDGE.refuses(4, Integer.toHexString(i << 9 | 0xC0), "");
@@ -142,16 +146,16 @@ public final class EdgeInstructionsTest {
     }
 
     private static void movedStatus() {
-        CHECKS.sentence("SR to a word (data alterable).");
+        CHECKS.sentence("0100 0000 11ee eeee: SR to a word (data alterable).");
         EDGE.does("40C0", "SR=71F D0=12345678", "D0=1234071F");
         EDGE.does("40D8", "SR=2715", "W.C00=2715 A0=C02");
         EDGE.does("40E7", "SR=2715", "W.EFE=2715 SS=EFE");
-        CHECKS.sentence("a word's low byte (data) to CCR.");
+        CHECKS.sentence("0100 0100 11..: a word's low byte (data) to CCR.");
         EDGE.does("44C0", "D0=FFFFFF00 SR=271F", "SR=2700");
         EDGE.does("44D8", "W.C00=FF15 SR=0", "SR=15 A0=C02");
         EDGE.does("44DF", "W.F00=1F SR=2000", "SR=201F SS=F02");
         EDGE.faults(0xC01, "44D0", "A0=C01");
-        CHECKS.sentence("a word (data) to SR; S only.");
+        CHECKS.sentence("0100 0110 11..: a word (data) to SR; S only.");
         EDGE.does("46C0", "D0=FFFF2700 SR=201F", "SR=2700");
         EDGE.does("46D8", "W.C00=8715", "SR=8715 A0=C02");
         EDGE.does("46DF", "W.F00=15", "SR=15 SS=F02");
@@ -161,7 +165,7 @@ public final class EdgeInstructionsTest {
     }
 
     private static void singles() {
-        CHECKS.sentence("0 less the operand, with X.");
+        CHECKS.sentence("0100 0000 ssee eeee: 0 less the operand, with X.");
         EDGE.does("4000", "D0=0 SR=2004", "");
         EDGE.does("4000", "D0=0 SR=2000", "");
         EDGE.does("4000", "D0=0 SR=2014", "D0=FF SR=2019");
@@ -171,7 +175,7 @@ public final class EdgeInstructionsTest {
         EDGE.does("4040", "D0=1FFFF SR=2010", "D0=10000 SR=2011");
         EDGE.does("4080", "D0=80000000 SR=2010", "D0=7FFFFFFF SR=2011");
         EDGE.does("4080", "D0=FFFFFFFF SR=2014", "D0=0 SR=2015");
-        CHECKS.sentence("it becomes 0 (logic).");
+        CHECKS.sentence("0010: it becomes 0 (logic).");
         EDGE.does("4200", "D0=FFFFFFFF SR=201B", "D0=FFFFFF00 SR=2014");
         EDGE.does("4240", "D0=FFFFFFFF SR=200B", "D0=FFFF0000 SR=2004");
         EDGE.does("429F", "L.F00=FFFFFFFF SR=201B", "L.F00=0 SS=F04 SR=2014");
@@ -194,7 +198,7 @@ public final class EdgeInstructionsTest {
     }
 
     private static void decimalSingles() {
-        CHECKS.sentence("0 less the operand, with X, in DECIMAL, a byte (data alterable).");
+        CHECKS.sentence("0100 1000 00ee eeee: 0 less the operand, with X, in DECIMAL, a byte (data alterable).");
         EDGE.does("4800", "D0=12345600 SR=2004", "");
         EDGE.does("4800", "D0=12345600 SR=2000", "");
         EDGE.does("4800", "D0=12345600 SR=2014", "D0=12345699 SR=2011");
@@ -209,18 +213,18 @@ public final class EdgeInstructionsTest {
     }
 
     private static void places() {
-        CHECKS.sentence("the words of Dy change places (logic, long).");
+        CHECKS.sentence("0100 1000 0100 0yyy: the words of Dy change places (logic, long).");
         EDGE.does("4840", "D0=12345678 SR=201F", "D0=56781234 SR=2010");
         EDGE.does("4840", "D0=8000 SR=2007", "D0=80000000 SR=2008");
         EDGE.does("4840", "D0=80000000 SR=200F", "D0=8000 SR=2000");
         EDGE.does("4840", "D0=0 SR=201B", "SR=2014");
         EDGE.does("4847", "D7=12345678", "D7=56781234");
-        CHECKS.sentence("an address (control) is pushed.");
+        CHECKS.sentence("0100 1000 01ee eeee: an address (control) is pushed.");
         EDGE.does("4857", "SS=F00", "SS=EFC L.EFC=F00");
         EDGE.does("486F FFFC", "SS=F00", "SS=EFC L.EFC=EFC");
         EDGE.does("4878 8000", "SR=201F", "SS=EFC L.EFC=FFFF8000");
         EDGE.does("487A 0000", "", "SS=EFC L.EFC=402");
-        CHECKS.sentence("s 0 the byte of Dy extended to a word, 1 the word to a long (logic).");
+        CHECKS.sentence("0100 1000 1s00 0yyy: s 0 the byte of Dy extended to a word, 1 the word to a long (logic).");
         EDGE.does("4880", "D0=12345600 SR=201B", "D0=12340000 SR=2014");
         EDGE.does("4880", "D0=1234FF7F SR=201F", "D0=1234007F SR=2010");
         EDGE.does("4880", "D0=12340080 SR=2007", "D0=1234FF80 SR=2008");
@@ -258,7 +262,8 @@ public final class EdgeInstructionsTest {
     }
 
     private static void manyRegisters() {
-        CHECKS.sentence("of the registers of which an extension word (in front) has bits: 0 to 7 D0 .. D7, 8 to 15 A0 .. A7");
+        CHECKS.sentence("0100 1000 1see eeee, 0100 1100 1s..: s 0 words, 1 longs, of the registers of which an "
+            + "extension word (in front) has bits: 0 to 7 D0 .. D7, 8 to 15 A0 .. A7");
         EDGE.does("48D0 0000", "SR=201F", "");
         EDGE.does("4890 0000", "A0=C01", "");
         EDGE.does("48D0 FFFF", numbered("C00"), row(0xC00, 4, 0xC00));
@@ -328,7 +333,8 @@ public final class EdgeInstructionsTest {
     }
 
     private static void highestBit() {
-        CHECKS.sentence("logic flags of a byte (data alterable), then its highest bit is 1. (0100 1010 1111 1100 is illegal.)");
+        CHECKS.sentence("0100 1010 11ee eeee: logic flags of a byte (data alterable), then its highest bit is 1. "
+            + "(0100 1010 1111 1100 is illegal.)");
         EDGE.does("4AC0", "D0=12345600 SR=201B", "D0=12345680 SR=2014");
         EDGE.does("4AC0", "D0=1234567F SR=201F", "D0=123456FF SR=2010");
         EDGE.does("4AC0", "D0=12345680 SR=2007", "SR=2008");
@@ -377,7 +383,8 @@ public final class EdgeInstructionsTest {
     }
 
     private static void links() {
-        CHECKS.sentence("Ay (A7 as it was) is pushed, becomes A7, then A7 grows by an extension word, extended.");
+        CHECKS.sentence("0101 0yyy: Ay (A7 as it was) is pushed, becomes A7, then A7 grows by an extension word, "
+            + "extended.");
         EDGE.does("4E50 0000", "A0=12345678", "L.EFC=12345678 A0=EFC SS=EFC");
         EDGE.does("4E50 7FFF", "A0=12345678", "L.EFC=12345678 A0=EFC SS=8EFB");
         EDGE.does("4E50 8000", "A0=12345678", "L.EFC=12345678 A0=EFC SS=FFFF8EFC");
@@ -385,7 +392,7 @@ public final class EdgeInstructionsTest {
         EDGE.does("4E57 0000", "", "L.EFC=F00 SS=EFC");
         EDGE.does("4E57 FFF8", "", "L.EFC=F00 SS=EF4");
         EDGE.does("4E57 0008", "SR=0", "L.DFC=E00 US=E04");
-        CHECKS.sentence("A7 becomes Ay, Ay is popped (an A7 is what was popped).");
+        CHECKS.sentence("0101 1yyy: A7 becomes Ay, Ay is popped (an A7 is what was popped).");
         EDGE.does("4E58", "A0=D00 L.D00=12345678", "A0=12345678 SS=D04");
         EDGE.does("4E58", "SR=0 A0=FFE L.FFE=12345678", "A0=12345678 US=1002");
         EDGE.does("4E5F", "SS=D00 L.D00=12345678", "SS=12345678");
@@ -409,7 +416,7 @@ public final class EdgeInstructionsTest {
     }
 
     private static void jumps() {
-        CHECKS.sentence("PC is pushed, and becomes an address (control). 11: without pushing.");
+        CHECKS.sentence("0100 1110 10ee eeee: PC is pushed, and becomes an address (control). 11: without pushing.");
         EDGE.does("4E90", "A0=12345678", "PC=12345678 L.EFC=402 SS=EFC");
         EDGE.does("4E97", "SS=F00", "PC=F00 L.EFC=402 SS=EFC");
         EDGE.does("4EB8 8000", "SR=201F", "PC=FFFF8000 L.EFC=404 SS=EFC");
@@ -423,7 +430,8 @@ public final class EdgeInstructionsTest {
     }
 
     private static void checks() {
-        CHECKS.sentence("if Dr's word is below 0, N is 1, if it is above it, N is 0 (both with signs): exception 6. "
+        CHECKS.sentence("0100 rrr1 10ee eeee: a word (data): if Dr's word is below 0, N is 1, if it is above it, N "
+            + "is 0 (both with signs): exception 6. "
             + "(All other flags stay, without it N too.)");
         EDGE.does("4181", "D0=0 D1=0 SR=201F", "");
         EDGE.does("4181", "D0=0 D1=0 SR=2000", "");
@@ -448,7 +456,7 @@ public final class EdgeInstructionsTest {
     }
 
     private static void countDown() {
-        CHECKS.sentence("if c does not hold: Dy's word becomes 1 less; "
+        CHECKS.sentence("0101 cccc 1100 1yyy: if c does not hold: Dy's word becomes 1 less; "
             + "if it isn't -1 then, PC becomes the extension word's address and that word, extended.");
         EDGE.does("51C8 0010", "D0=12340002 SR=201F", "D0=12340001 PC=412");
         EDGE.does("51C8 0010", "D0=12340001", "D0=12340000 PC=412");
@@ -466,13 +474,14 @@ public final class EdgeInstructionsTest {
     }
 
     private static void byConditions() {
-        CHECKS.sentence("a byte (data alterable) becomes 255, if c holds, else 0.");
+        CHECKS.sentence("0101 cccc 11ee eeee: a byte (data alterable) becomes 255, if c holds, else 0.");
         EDGE.does("50C0", "D0=12345600 SR=201F", "D0=123456FF");
         EDGE.does("51C0", "D0=123456FF SR=201F", "D0=12345600");
         EDGE.does("50D8", "", "B.C00=FF A0=C01");
         EDGE.does("50DF", "", "B.F00=FF SS=F02");
         EDGE.does("51E7", "B.EFE=FF", "B.EFE=0 SS=EFE");
-        CHECKS.sentence("CONDITIONS: 0 always, 1 never");
+        CHECKS.sentence("CONDITIONS: 0 always, 1 never; 2 C and Z are 0, 3 not so; 4 C 0, 5 C 1; 6 Z 0, 7 Z 1; "
+            + "8 V 0, 9 V 1; 10 N 0, 11 N 1; 12 N is V, 13 not; 14 Z 0 and N is V, 15 not.");
         for (int c = 0; c < 16; c++) {
             for (int flags = 0; flags < 32; flags++) {
                 String code = Integer.toHexString(0x50C0 | c << 8);
@@ -494,7 +503,8 @@ public final class EdgeInstructionsTest {
     }
 
     private static void quick() {
-        CHECKS.sentence("r (8 for 0) and the operand (t 0 sum, 1 difference: it less r; alterable");
+        CHECKS.sentence("0101 rrrt ssee eeee: r (8 for 0) and the operand (t 0 sum, 1 difference: it less r; "
+            + "alterable");
         for (int r = 0; r < 8; r++) {
             String due = Integer.toHexString(r == 0 ? 8 : r);
             EDGE.does(Integer.toHexString(0x5000 | r << 9), "D0=0", "D0=" + due);
@@ -517,7 +527,7 @@ public final class EdgeInstructionsTest {
     }
 
     private static void branches() {
-        CHECKS.sentence("d extended, or an extension word for 0: if c holds, "
+        CHECKS.sentence("0110 cccc dddd dddd: d extended, or an extension word for 0: if c holds, "
             + "PC, as it was behind the instruction's first word, and that.");
         EDGE.does("6002", "", "PC=404");
         EDGE.does("607F", "", "PC=481");
@@ -552,7 +562,8 @@ public final class EdgeInstructionsTest {
     }
 
     private static void directions() {
-        CHECKS.sentence("t 0: Dr or the operand (data) to Dr; 1: the operand (memory alterable) or Dr to it (logic).");
+        CHECKS.sentence("1000 rrrt ssee eeee: t 0: Dr or the operand (data) to Dr; 1: the operand (memory alterable) "
+            + "or Dr to it (logic).");
         EDGE.does("8050", "D0=F W.C00=F0", "D0=FF");
         EDGE.does("8150", "D0=F W.C00=F0", "W.C00=FF");
         EDGE.does("815F", "D0=F W.F00=8000", "W.F00=800F SS=F02 SR=2008");
@@ -568,7 +579,8 @@ public final class EdgeInstructionsTest {
         EDGE.does("B050", "D0=3 W.C00=5", "SR=2009");
         EDGE.does("B150", "D0=5 W.C00=5", "W.C00=0 SR=2004");
         EDGE.does("B140", "D0=8001 SR=201B", "D0=0 SR=2014");
-        CHECKS.sentence("Ar less, and, compared with a word, extended, or long (t 1) (any); the first two without flags.");
+        CHECKS.sentence("1001 rrrt 11ee eeee, 1101, 1011: Ar less, and, compared with a word, extended, or long (t "
+            + "1) (any); the first two without flags.");
         EDGE.does("90C1", "A0=0 D1=12348000 SR=201F", "A0=8000");
         EDGE.does("91C1", "A0=0 D1=12348000 SR=201F", "A0=EDCB8000");
         EDGE.does("D0C1", "A0=0 D1=12347FFF SR=2000", "A0=7FFF");
@@ -638,7 +650,8 @@ public final class EdgeInstructionsTest {
     }
 
     private static void products() {
-        CHECKS.sentence("the product of Dr's word and a word (data), without signs, with signs, to Dr (logic).");
+        CHECKS.sentence("1100 rrr0 11.., rrr1 11..: the product of Dr's word and a word (data), without signs, with "
+            + "signs, to Dr (logic).");
         EDGE.does("C0C1", "D0=FFFF D1=FFFF SR=2017", "D0=FFFE0001 SR=2018");
         EDGE.does("C0C1", "D0=12340002 D1=56780003 SR=201F", "D0=6 SR=2010");
         EDGE.does("C0C1", "D0=12340000 D1=FFFF SR=201B", "D0=0 SR=2014");
@@ -654,7 +667,7 @@ public final class EdgeInstructionsTest {
     }
 
     private static void pairs() {
-        CHECKS.sentence("DECIMAL bytes, m 0 of Dy and Dr, 1 at Ay, then Ar, as mode 4: "
+        CHECKS.sentence("1000 rrr1 0000 myyy, 1100: DECIMAL bytes, m 0 of Dy and Dr, 1 at Ay, then Ar, as mode 4: "
             + "the first, difference of the second one and the first, with X; sum with X.");
         EDGE.does("8101", "D0=9 D1=4", "D0=5");
         EDGE.does("8308", "A0=C01 A1=D01 B.C00=4 B.D00=9", "A0=C00 A1=D00 B.D00=5");
@@ -663,7 +676,7 @@ public final class EdgeInstructionsTest {
         EDGE.does("C308", "A0=C01 A1=D01 B.C00=4 B.D00=9", "A0=C00 A1=D00 B.D00=13");
         EDGE.does("C30F", "A1=D01 B.EFE=4 B.D00=9", "SS=EFE A1=D00 B.D00=13");
         EDGE.does("C308", "A0=0 A1=1 B.FFF=4 B.0=9", "A0=FFFFFFFF A1=0 B.0=13");
-        CHECKS.sentence("likewise of a size, difference and sum with X.");
+        CHECKS.sentence("1001 rrr1 ss00 myyy, 1101: likewise of a size, difference and sum with X.");
         EDGE.does("9101", "D0=9 D1=4", "D0=5");
         EDGE.does("9388", "A0=C04 A1=D04 L.C00=4 L.D00=9 SR=2010", "A0=C00 A1=D00 L.D00=4 SR=2000");
         EDGE.does("D348", "A0=C02 A1=D02 W.C00=4 W.D00=FFFC SR=2014", "A0=C00 A1=D00 W.D00=1 SR=2011");
@@ -671,7 +684,7 @@ public final class EdgeInstructionsTest {
         EDGE.does("9F0F", "SS=F04 B.F02=4 B.F00=9", "SS=F00 B.F00=5");
         EDGE.faults(0xC01 - 2, "D348", "A0=C01 A1=D01");
         EDGE.faults(0xD01 - 4, "D388", "A0=C04 A1=D01");
-        CHECKS.sentence("at Ay and Ar, as mode 3: the second one compared with the first.");
+        CHECKS.sentence("1011 rrr1 ss00 1yyy: at Ay and Ar, as mode 3: the second one compared with the first.");
         EDGE.does("B308", "B.C00=5 B.C40=3", "A0=C01 A1=C41 SR=2009");
         EDGE.does("B348", "W.C00=3 W.C40=5", "A0=C02 A1=C42");
         EDGE.does("B388", "L.C00=5 L.C40=5 SR=2010", "A0=C04 A1=C44 SR=2014");
@@ -682,7 +695,7 @@ public final class EdgeInstructionsTest {
     }
 
     private static void exchanges() {
-        CHECKS.sentence("Dr and Dy change places; 0100 1yyy Ar and Ay; 1000 1yyy Dr and Ay.");
+        CHECKS.sentence("1100 rrr1 0100 0yyy: Dr and Dy change places; 0100 1yyy Ar and Ay; 1000 1yyy Dr and Ay.");
         EDGE.does("C141", "D0=80000000 D1=0 SR=201F", "D0=0 D1=80000000");
         EDGE.does("C149", "A0=80000000 A1=0", "A0=0 A1=80000000");
         EDGE.does("C189", "D0=80000000 A1=0", "D0=0 A1=80000000");

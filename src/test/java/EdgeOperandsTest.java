@@ -86,7 +86,8 @@ public final class EdgeOperandsTest {
     }
 
     private static void twoStacks() {
-        CHECKS.sentence("there are two, one for S = 1 (supervisor), one for S = 0 (user); A7 means that of S as it is.");
+        CHECKS.sentence("A7 is the stack pointer: there are two, one for S = 1 (supervisor), one for S = 0 (user); "
+            + "A7 means that of S as it is.");
         EDGE.does("200F", "SR=2000", "D0=F00");
         EDGE.does("200F", "SR=0", "D0=E00");
         EDGE.does("2E40", "SR=2000 D0=650", "SS=650");
@@ -203,7 +204,8 @@ public final class EdgeOperandsTest {
     }
 
     private static void wordsOfAnInstruction() {
-        CHECKS.sentence("EXTENSION WORDS behind it are taken likewise, those of a source before those of a destination");
+        CHECKS.sentence("EXTENSION WORDS behind it are taken likewise, those of a source before those of a "
+            + "destination");
         EDGE.does("33FC 1234 0000 0C10", "", "W.C10=1234");
         EDGE.does("31F8 0C10 0C20", "W.C10=1234", "W.C20=1234");
         EDGE.does("23F9 0000 0C10 0000 0C20", "L.C10=12345678", "L.C20=12345678");
@@ -225,7 +227,8 @@ public final class EdgeOperandsTest {
     }
 
     private static void illegal() {
-        CHECKS.sentence("What fits nothing is ILLEGAL (exception 4); what begins with 1010 is exception 10, with 1111 it is 11.");
+        CHECKS.sentence("What fits nothing is ILLEGAL (exception 4); what begins with 1010 is exception 10, with "
+            + "1111 it is 11.");
         String[] words = {
             "4AFC", "00BC", "02BC", "0ABC", "00C0", "02C0", "04C0", "06C0", "0AC0", "0CC0", "0E00", "0EC0", "0EFF", "083C", "08FC", "42C0", "4808",
             "4848", "49C0", "4AFA", "4AFF", "4C00", "4C7F", "4C80", "4C88", "4E00", "4E3F", "4E74", "4E78", "4E7F",
@@ -242,7 +245,7 @@ public final class EdgeOperandsTest {
     }
 
     private static void registerOperands() {
-        CHECKS.sentence("0 Dy. 1 Ay. 2 at Ay.");
+        CHECKS.sentence("OPERANDS by mode and register y: 0 Dy. 1 Ay. 2 at Ay.");
         EDGE.does("2007", "D7=12345678", "D0=12345678");
         EDGE.does("200E", "A6=12345678", "D0=12345678");
         EDGE.does("200F", "SS=12345678", "D0=12345678");
@@ -371,7 +374,7 @@ public final class EdgeOperandsTest {
     }
 
     private static void classes() {
-        CHECKS.sentence("ANY: all.");
+        CHECKS.sentence("CLASSES: ANY: all.");
         takes("move", 0x3200, "111111111111");
         takes("move to A", 0x2240, "111111111111");
         takes("sum", 0xD240, "111111111111");
@@ -387,7 +390,8 @@ public final class EdgeOperandsTest {
         takes("check", 0x4380, "101111111111");
         takes("product", 0xC2C0, "101111111111");
         takes("quotient", 0x83C0, "101111111111");
-        CHECKS.sentence("with the number in an extension word in front of the operand's (t 0: data, but not the last of 7).");
+        CHECKS.sentence("0000 1000 ttee eeee: with the number in an extension word in front of the operand's (t 0: "
+            + "data, but not the last of 7).");
         takes("bit of a number", 0x0800, "101111111110");
         CHECKS.sentence("MEMORY: not 0 and 1.");
         takes("shift", 0xE0C0, "001111111000");
@@ -428,6 +432,13 @@ public final class EdgeOperandsTest {
         takes("highest bit set", 0x4AC0, "101111111000");
         // With mode 1 these bits compare at Ay and Ar.
         takes("exclusive or", 0xB340, "111111111000");
+        CHECKS.sentence("All data alterable.");
+        int[] singles = {0x4000, 0x4200, 0x4400, 0x4600, 0x4A00};
+        for (int word : singles) {
+            for (int s = 0; s < 3; s++) {
+                takes("single", word | s << 6, "101111111000");
+            }
+        }
         destinations();
         CHECKS.sentence("An operand out of its class is illegal (also where S only is told)");
         takes("to SR", 0x46C0, "101111111111");
@@ -506,7 +517,8 @@ public final class EdgeOperandsTest {
     }
 
     private static void logicFlags() {
-        CHECKS.sentence("LOGIC: N is the result's highest bit, Z 1 if it is 0, V and C 0, X stays.");
+        CHECKS.sentence("FLAGS, where nothing else is told: LOGIC: N is the result's highest bit, Z 1 if it is 0, V "
+            + "and C 0, X stays.");
         String[] sizes = {"1001", "3001", "2001"};
         String[] tops = {"80", "8000", "80000000"};
         String[] below = {"7F", "7FFF", "7FFFFFFF"};

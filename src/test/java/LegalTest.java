@@ -50,6 +50,9 @@ public final class LegalTest {
     }
 
     public static void main(String[] args) {
+        CHECKS.sentence("In what follows its 16 bits are told by letters, four by four: r and x a register's number, "
+            + "s the SIZE (0 byte, 1 word, 2 long), m and y MODE and register of an operand, e both (six bits), "
+            + "c a condition; 0 and 1 stand for themselves.");
         for (int word = 0; word < 65536; word++) {
             look(word);
         }
