@@ -1091,8 +1091,8 @@ public final class BoardCore {
             Size size = manySize(word);
             if (operand(word) < 8) {
                 int y = lower(word);
-                int v = size == Size.WORD ? (byte) registers.get(y) : (short) registers.get(y);
-                access.store(size, Access.inRegister(y), arithmetic.logic(size, v));
+                Size half = size == Size.WORD ? Size.BYTE : Size.WORD;
+                access.store(size, Access.inRegister(y), arithmetic.logic(size, half.extend(registers.get(y))));
             } else if (!misfits(CONTROL & ALTERABLE | GOING_DOWN, operand(word))) {
                 int list = access.nextWord();
                 if (operand(word) >>> 3 == 4) {

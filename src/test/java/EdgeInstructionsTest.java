@@ -484,8 +484,14 @@ public final class EdgeInstructionsTest {
             + "8 V 0, 9 V 1; 10 N 0, 11 N 1; 12 N is V, 13 not; 14 Z 0 and N is V, 15 not.");
         for (int c = 0; c < 16; c++) {
             for (int flags = 0; flags < 32; flags++) {
-                String code = Integer.toHexString(0x50C0 | c << 8);
-                EDGE.does(code, "D0=55 SR=" + Integer.toHexString(0x2000 | flags), holds(c, flags) ? "D0=FF" : "D0=0");
+                boolean holds = holds(c, flags);
+                String before = "D0=55 SR=" + Integer.toHexString(0x2000 | flags);
+                EDGE.does(Integer.toHexString(0x50C0 | c << 8), before, holds ? "D0=FF" : "D0=0");
+                EDGE.does(Integer.toHexString(0x50C8 | c << 8) + " 0010", before, holds ? "" : "D0=54 PC=412");
+                if (c != 1) {
+                    EDGE.does(Integer.toHexString(0x6010 | c << 8), before, holds ? "PC=412" : "");
+                    EDGE.does(Integer.toHexString(0x6000 | c << 8) + " 0010", before, holds ? "PC=412" : "");
+                }
             }
         }
     }

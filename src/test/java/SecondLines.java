@@ -141,7 +141,7 @@ final class SecondLines {
         for (Line line : LINES) {
             if (line.fits(word)) {
                 if (found != null) {
-                    throw new IllegalStateException(Integer.toHexString(word) + " fits " + found.letters + " and " + line.letters);
+                    throw new IllegalStateException(word + " fits " + found.letters + " and " + line.letters);
                 }
                 found = line;
             }

@@ -7,7 +7,7 @@ import java.util.Random;
 public final class SecondTest {
     private static final Checks CHECKS = new Checks();
     private static final int ROUNDS = 6;
-    private static final int RUNS = 1500;
+    private static final int RUNS = 2200;
 
     private final Random random;
     private final BoardCore board = new BoardCore();
@@ -99,9 +99,8 @@ public final class SecondTest {
     private void code(int address, int word) {
         write(address, word, 2);
         for (int i = 1; i < 5; i++) {
-            int[] words = {
-                random.nextInt(64) - 32, random.nextInt(0x10000), 2 * random.nextInt(0x800), 0, random.nextInt(0x10000) & ~1,
-            };
+            int any = random.nextInt(0x10000);
+            int[] words = {random.nextInt(64) - 32, any, 2 * random.nextInt(0x800), 0, any & ~1};
             write(address + 2 * i, words[random.nextInt(words.length)], 2);
         }
     }
@@ -158,7 +157,7 @@ public final class SecondTest {
         for (int i = 0; i < 120; i++) {
             write(0x100 + 4 * random.nextInt(0x300), legal() << 16 | legal(), 4);
         }
-        for (int i = 0; i < 6; i++) {
+        for (int i = 0; i < 4; i++) {
             put(16, 0x100 + 2 * random.nextInt(0x600));
             want(random.nextInt(8));
             step(random.nextInt(12));
